@@ -214,7 +214,8 @@ public final class OpinionReactor {
 
   public float excite(int claim, int amount) throws IndexOutOfBoundsException, IllegalArgumentException {
     before.copyFrom(now);
-    return now.claims.fluxes[settled(now.heat(claim, amount))];
+    int heated = settled(now.heat(claim, amount));
+    return now.claims.fluxes[heated];
   }
 
   public int pass(int shifts) throws IllegalArgumentException {
@@ -670,8 +671,12 @@ public final class OpinionReactor {
     }
 
     void copyFrom(Racks other) {
-      System.arraycopy(other.kinds, 0, kinds, 0, LAYERS);
-      System.arraycopy(other.remarks, 0, remarks, 0, LAYERS * SLOTS);
+      for (int i = 0; i < kinds.length; i++) {
+        kinds[i] = other.kinds[i];
+      }
+      for (int i = 0; i < remarks.length; i++) {
+        remarks[i] = other.remarks[i];
+      }
     }
 
     int renew(int layer, char kind) {
@@ -754,8 +759,10 @@ public final class OpinionReactor {
     private int next = 0;
 
     void copyFrom(Log other) {
-      System.arraycopy(other.shifts, 0, shifts, 0, MAX_LOG);
-      System.arraycopy(other.kinds, 0, kinds, 0, MAX_LOG);
+      for (int i = 0; i < MAX_LOG; i++) {
+        shifts[i] = other.shifts[i];
+        kinds[i] = other.kinds[i];
+      }
       count = other.count;
       next = other.next;
     }
