@@ -1173,17 +1173,18 @@ public final class OpinionReactor {
     // The index of the first character that the latest reading did not take.
     private int stop = 0;
 
-    // Answers the error position, or NONE if all is well.
+    // Answers the error position, or NONE if all is well. Meanwhile the commands are those ahead of the one read.
     int parse() {
       int start = 0;
-      for (commands = 0; commands < MAX_COMMANDS; commands++) {
+      for (int i = 0; i < MAX_COMMANDS; i++) {
+        commands = i;
         Form form = readForm(start);
         if (form == null) {
           return stop;
         }
-        forms[commands] = form;
+        forms[i] = form;
         if (stop >= length) {
-          commands++;
+          commands = i + 1;
           return NONE;
         }
         if (signs[stop] != ';') {

@@ -120,9 +120,10 @@ final class Checks {
   /** All that can be seen without a change and without writing the line, but for the rows of the racks. */
   static String view(OpinionReactor r) {
     StringBuilder view = new StringBuilder();
-    for (int i = 0; i < r.claimCount(); i++) {
+    int claims = r.claimCount();
+    for (int i = 0; i < claims; i++) {
       view.append(r.weightOf(i)).append('/').append(r.layerOf(i)).append('/').append(r.fluxBits(i));
-      for (int k = 0; k < r.claimCount(); k++) {
+      for (int k = 0; k < claims; k++) {
         view.append(r.attacks(i, k) ? '1' : '0');
       }
       view.append(' ');

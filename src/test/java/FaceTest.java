@@ -11,7 +11,7 @@ import java.util.Set;
 import java.util.TreeSet;
 import java.util.stream.Collectors;
 
-/** The face of the class is that of the document, and its file keeps to what can be told of LANGUAGE.md by its words. */
+/** The face of the class is the document's, and its file keeps to those rules of LANGUAGE.md that words can tell. */
 public final class FaceTest {
   private static final Checks C = new Checks();
   private static final Path DOCUMENT = Path.of("../shared/DOC.md");
