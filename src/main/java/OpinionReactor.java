@@ -524,7 +524,7 @@ public final class OpinionReactor {
   }
 
   private static boolean contains(int set, int claim) {
-    return (set & bit(claim)) != 0;
+    return (set >> claim & 1) != 0;
   }
 
   private static char digit(int number) {

@@ -14,6 +14,9 @@ final class Checks {
     Object on(OpinionReactor r);
   }
 
+  // More changes than can ever be undone.
+  private static final int MANY = 12;
+
   private int checks = 0;
   private int wrong = 0;
 
@@ -30,16 +33,17 @@ final class Checks {
   }
 
   /**
-   * The call throws what is due, and nothing that can be seen of the object differs afterwards. It
-   * takes a new object, as looking at one takes many of the 512 calls that an object is good for.
+   * The call throws what is due, and the object is as one that was made alike and not called. It takes
+   * new objects, as looking at a whole one uses it up and takes many of its 512 calls.
    */
   void refusesUnchanged(
       String what, Maker maker, Class<? extends RuntimeException> want, Use use) {
     OpinionReactor r = maker.make();
-    String old = view(r);
     refuses(what, want, () -> use.on(r));
-    due("all that can be seen after " + what, view(r), old);
-    due("changes to undo after " + what, undoAll(r), undoAll(maker.make()));
+    due("all that can be told after " + what, whole(r), whole(maker.make()));
+    OpinionReactor other = maker.make();
+    outcome(() -> use.on(other));
+    due("the limit after " + what, other.setLimit(1), maker.make().setLimit(1));
   }
 
   /** The exception itself counts, not one above it. */
@@ -138,15 +142,34 @@ final class Checks {
     return view.toString();
   }
 
+  /** What view leaves out too, but for the limit: little is left of the object afterwards. */
+  static String whole(OpinionReactor r) {
+    StringBuilder whole = new StringBuilder(view(r));
+    whole.append(" racks ").append(racks(r)).append(" text ").append(outcome(() -> r.append(' ')));
+    Object left = outcome(r::undo);
+    for (int i = 0; i < MANY && left instanceof Integer; i++) {
+      whole.append(" undo ").append(left).append(": ").append(glance(r));
+      left = outcome(r::undo);
+    }
+    whole.append(" at first ").append(r.setLimit(1));
+    whole.append(" snapshot ").append(outcome(r::restore)).append(": ").append(glance(r));
+    return whole.append(' ').append(r.setLimit(1)).toString();
+  }
+
+  private static String glance(OpinionReactor r) {
+    StringBuilder glance = new StringBuilder();
+    for (int layer = 0; layer < 4; layer++) {
+      glance.append(r.depthOf(layer));
+    }
+    return glance.append(' ').append(r.claimCount()).append(' ').append(r.acceptedBits()).append(' ')
+        .append(r.undecidedCount()).append(' ').append(r.powerBits()).append(' ').append(r.shiftCount()).append(' ')
+        .append(r.scrams()).append(' ').append(r.logCount()).toString();
+  }
+
   static int undoAll(OpinionReactor r) {
     int undone = 0;
-    try {
-      for (int i = 0; i < 100; i++) {
-        r.undo();
-        undone++;
-      }
-    } catch (IllegalStateException e) {
-      // No change is left.
+    while (undone < MANY && outcome(r::undo) instanceof Integer) {
+      undone++;
     }
     return undone;
   }
